@@ -1208,7 +1208,7 @@ public final class QuadricFlats {
 
         /** Those that can cover the open one that the fewest can cover. */
         private long fewestChoices(long open, long free) {
-            long fewest = free;
+            long fewest = 0;
             int least = BITS + 1;
             for (int covered = 0; covered < other.size && least > 1; covered++) {
                 if ((open >>> covered & 1) != 0) {

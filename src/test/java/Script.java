@@ -3,7 +3,8 @@ import java.lang.reflect.Method;
 
 /**
  * Runs of calls written as the document writes its examples: "letter(50) = 1; fault() = 10; ..".
- * Two abbreviations: text "2:.." puts each character by letter(), and a call without "=" is not compared.
+ * Two abbreviations: text "2:.." puts each character by letter(), and a call without "=" has no answer due.
+ * The plain model runs along, so that an answer that is due has two witnesses.
  */
 final class Script {
     private static int wrong = 0;
@@ -13,10 +14,11 @@ final class Script {
     }
 
     static QuadricFlats run(String name, String calls) {
+        run(name + ", plain model", new PlainModel(), calls);
         return run(name, new QuadricFlats(), calls);
     }
 
-    static QuadricFlats run(String name, QuadricFlats x, String calls) {
+    static <T> T run(String name, T x, String calls) {
         for (String part : calls.split(";")) {
             String step = part.trim();
             if (step.startsWith("text ")) {
@@ -28,13 +30,13 @@ final class Script {
         return x;
     }
 
-    static void type(QuadricFlats x, String text) {
+    static void type(Object x, String text) {
         for (int i = 0; i < text.length(); i++) {
-            due("text " + text, x.letter(text.charAt(i)) > 0 ? 1 : 0, 1);
+            due("text " + text, answer(x, "letter", text.charAt(i)) > 0 ? 1 : 0, 1);
         }
     }
 
-    private static void step(String name, QuadricFlats x, String step) {
+    private static void step(String name, Object x, String step) {
         String[] halves = step.split("=");
         String call = halves[0].trim();
         long got = answer(x, call);
@@ -43,7 +45,7 @@ final class Script {
         }
     }
 
-    static long answer(QuadricFlats x, String call) {
+    static long answer(Object x, String call) {
         int open = call.indexOf('(');
         String inside = call.substring(open + 1, call.length() - 1).trim();
         String[] words = inside.isEmpty() ? new String[0] : inside.split(",");
