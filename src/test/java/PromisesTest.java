@@ -424,71 +424,26 @@ public final class PromisesTest {
             + ELLIPTIC5 + "count(2) = 26; " + KLEIN + "count(2) = 30; " + ELLIPTIC6 + "count(2) = 45; count(6) = 5");
     }
 
-    /** The checksum is added up here from the answers of the other methods. */
     private static void digest() {
         long h = 1499;
         for (int what = 0; what <= 8; what++) {
             h = 31 * h;
         }
         Script.due("promise 33: a new object", new QuadricFlats().digest(), h);
-        String[] starts = {CONIC, ZERO, CONE5, GRID5, KLEIN + "pick(0); pick(1); gather(29); ",
-            ELLIPTIC6 + "finish(1); letter(126); letter(32); ", PARABOLIC3 + "finish(0); drop(0); ways(1); text 3:; "};
+        String[] starts = {CONIC, ZERO, CONE5, GRID5, KLEIN + "pick(0); pick(1); gather(29); "};
         for (String start : starts) {
-            QuadricFlats x = Script.run("promise 33", start);
-            Script.due("promise 33: " + start, x.digest(), added(x));
-            Script.due("promise 33: again " + start, x.digest(), added(x));
+            digest(start, "");
         }
-        QuadricFlats x = Script.run("promise 33", "letter(50); letter(126)");
-        Script.due("promise 33: a page", x.digest(), addedTail(x, 31 * (31 * 1499L + 50) + 126));
+        digest(ELLIPTIC6 + "finish(1); letter(126); letter(32); ", "~ ");
+        digest(PARABOLIC3 + "finish(0); drop(0); ways(1); text 3:; ", "3:");
+        digest("letter(50); letter(126)", "2~");
     }
 
-    private static long added(QuadricFlats x) {
-        long h = 1499;
-        for (int what = 0; what <= 7; what++) {
-            h = 31 * h + x.about(what);
-        }
-        for (int i = 0; i < x.about(1); i++) {
-            for (int j = i; j < x.about(1); j++) {
-                h = 31 * h + x.coefficient(i, j);
-            }
-        }
-        for (int point = 0; point < x.about(2); point++) {
-            h = 31 * h + x.value(point);
-        }
-        if (x.about(5) != 3) {
-            h = addedFlats(x, h);
-        }
-        for (int of = 0; of <= 1; of++) {
-            for (int place = 0; place < x.count(3 + of); place++) {
-                h = 31 * h + x.chosen(of, place);
-            }
-        }
-        String page = x.count(5) == 0 ? "" : x.about(1) == 6 ? "~ " : "3:";
-        for (char sign : page.toCharArray()) {
-            h = 31 * h + sign;
-        }
-        return addedTail(x, h);
-    }
-
-    private static long addedFlats(QuadricFlats x, long start) {
-        long h = start;
-        for (int degree = 1; degree <= 3; degree++) {
-            h = 31 * h + x.flats(degree);
-        }
-        for (int g = 0; g < x.count(2); g++) {
-            for (int place = 0; x.flat(x.about(7), g, place) >= 0; place++) {
-                h = 31 * h + x.flat(x.about(7), g, place);
-            }
-        }
-        return 31 * (31 * h + x.left(0)) + x.left(1);
-    }
-
-    private static long addedTail(QuadricFlats x, long start) {
-        long h = start;
-        for (int what = 0; what <= 8; what++) {
-            h = 31 * h + x.count(what);
-        }
-        return h;
+    private static void digest(String start, String page) {
+        QuadricFlats x = Script.run("promise 33", start);
+        long sum = x.digest();
+        Script.due("promise 33: " + start, sum, Checksum.of(x, page));
+        Script.due("promise 33: again " + start, x.digest(), sum);
     }
 
     /** The lists are emptied by every change of the form that succeeds, and by no other call. */
