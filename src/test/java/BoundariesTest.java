@@ -50,10 +50,12 @@ public final class BoundariesTest {
         finishLimit();
         ways();
         waysLimit();
+        inPlaceOfAnother();
         put();
         swap();
         plus();
         scaleAndTimes();
+        substitutions();
         imageAndRestore();
         like();
         drawn();
@@ -380,6 +382,8 @@ public final class BoundariesTest {
             + "joined(1, 2) = 1; section(1, 1) = 3; section(0, 1) = -1");
         holds(12, "exactly those points whose polar value is 0, also with a nucleus", CONIC + "section(0, 1) = -1; "
             + "section(1, 1) = 3; section(3, 1) = 1; section(5, 1) = 6; section(5, 0) = 1");
+        holds(12, "tangent at the lowest point of all, and at the highest", GRID2 + "section(1, 1) = 0; section(1, 0) = 5; "
+            + "section(14, 1) = 14; section(14, 0) = 5");
     }
 
     private static void flats() {
@@ -540,6 +544,27 @@ public final class BoundariesTest {
             + "ways(0) = 1; ".repeat(12) + "ways(0) = -103; count(7) = 20; count(8) = 12");
     }
 
+    /** "Reads the page as the form, in place of the present one": nothing of the present one is left. */
+    private static void inPlaceOfAnother() {
+        for (Object[] one : NONSINGULAR) {
+            for (Object[] other : NONSINGULAR) {
+                String calls = "text " + one[0] + "; form(); image(); finish(0); finish(1); text " + other[0] + "; form(); "
+                    + "flats(1) = " + other[1] + "; flats(2) = " + other[2] + "; flats(3) = " + other[3] + "; ways(0) = "
+                    + other[6] + "; ways(1) = " + other[7] + "; count(3) = 0; count(4) = 0; ";
+                sameDigest(calls);
+                sameDigest(calls + "restore(); flats(1) = " + one[1] + "; flats(2) = " + one[2] + "; ways(0) = " + one[6]);
+            }
+        }
+    }
+
+    private static void sameDigest(String calls) {
+        QuadricFlats x = new QuadricFlats();
+        PlainModel model = new PlainModel();
+        Script.run("program: " + calls, x, calls);
+        Script.run("model: " + calls, model, calls);
+        Script.due("the checksum after " + calls, x.digest(), model.digest());
+    }
+
     private static void put() {
         inEachSpace(23, "v: 0 to P - 1", "put({N-1}, 0, -1) = -102; put({N-1}, 0, {P}) = -102; put({N-1}, 0, 0) = 0; "
             + "put({N-1}, 0, {P-1}) = 0; coefficient(0, {N-1}) = {P-1}; put({N-1}, 0, 0) = {P-1}; about(4) = {points}");
@@ -590,6 +615,74 @@ public final class BoundariesTest {
         holds(27, "Returns the discriminant then: it stays if N is even", GRID5 + "times(2) = 1; times(3) = 1; "
             + "times(4) = 1; " + CONE5 + "times(2) = 0");
         holds(27, "Returns the discriminant then: 0 if P is 2", CONIC + "times(1) = 0; times(2) = -102");
+    }
+
+    /** "the new value at a vector x is the old value at the vector that has .. in place of x(i)" */
+    private static void substitutions() {
+        String[] texts = {"2:101/11/0", "2:1101/011/10/1", "2:10110/1011/110/01/1", "2:110101/01101/1011/010/11/0",
+            "3:121/02/2", "3:2012/112/20/1", "3:12012/2101/102/12/1", "5:134/42/3", "5:2413/341/12/4"};
+        for (int k = 0; k < texts.length; k++) {
+            int prime = SPACES[k][0];
+            for (int i = 0; i < SPACES[k][1]; i++) {
+                for (int c = 1; c < prime; c++) {
+                    substitution(texts[k], SPACES[k], "scale(" + i + ", " + c + ")", i, i, c);
+                }
+                for (int j = 0; j < SPACES[k][1]; j++) {
+                    for (int c = 0; c < prime && j != i; c++) {
+                        substitution(texts[k], SPACES[k], "plus(" + i + ", " + j + ", " + c + ")", i, j, c);
+                    }
+                    if (j != i) {
+                        substitution(texts[k], SPACES[k], "swap(" + i + ", " + j + ")", i, j, -1);
+                    }
+                }
+            }
+        }
+    }
+
+    private static void substitution(String text, int[] space, String call, int i, int j, int c) {
+        String start = "text " + text + "; form() = " + space[2] + "; ";
+        int[] old = coefficients(Script.run("substitution", start), space[1]);
+        QuadricFlats x = Script.run("substitution", start + call);
+        int stride = Math.max(1, space[2] * space[1] / 300);
+        for (int point = 0; point < space[2]; point += stride) {
+            int[] vector = new int[space[1]];
+            for (int k = 0; k < space[1]; k++) {
+                vector[k] = x.point(point, k);
+            }
+            substitute(vector, i, j, c);
+            Script.due("the value at " + point + " of " + text + " after " + call, x.value(point), valueAt(old, vector) % space[0]);
+        }
+    }
+
+    private static int[] coefficients(QuadricFlats x, int n) {
+        int[] result = new int[n * n];
+        for (int i = 0; i < n; i++) {
+            for (int j = i; j < n; j++) {
+                result[i * n + j] = x.coefficient(i, j);
+            }
+        }
+        return result;
+    }
+
+    /** The factor -1 stands for an exchange. */
+    private static void substitute(int[] vector, int i, int j, int c) {
+        int was = vector[i];
+        if (c < 0) {
+            vector[i] = vector[j];
+            vector[j] = was;
+        } else {
+            vector[i] = i == j ? c * was : was + c * vector[j];
+        }
+    }
+
+    private static int valueAt(int[] coefficients, int[] vector) {
+        int sum = 0;
+        for (int i = 0; i < vector.length; i++) {
+            for (int j = i; j < vector.length; j++) {
+                sum += coefficients[i * vector.length + j] * vector[i] * vector[j];
+            }
+        }
+        return sum;
     }
 
     private static void imageAndRestore() {
