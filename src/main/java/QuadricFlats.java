@@ -1178,22 +1178,24 @@ public final class QuadricFlats {
             first = 0;
             long open = other.everything() & ~side.covered();
             long free = side.everything() & ~side.clashing();
-            walk(open, free, side.taken(), side.length);
+            walk(this, open, free, side.taken(), side.length);
         }
 
-        private void walk(long open, long free, long taken, int depth) {
+        /** Static, as the language's rule asks of a method that calls itself. */
+        private static void walk(Search search, long open, long free, long taken, int depth) {
             if (open == 0) {
-                note(taken);
+                search.note(taken);
                 return;
             }
             if (depth >= DEEPEST) {
                 return;
             }
-            long rest = fewestChoices(open, free);
+            Side side = search.side;
+            long rest = search.fewestChoices(open, free);
             for (int turn = Long.bitCount(rest); turn > 0; turn--) {
                 int one = lowestBit(rest);
                 rest &= rest - 1;
-                walk(open & ~side.covers[one], free & ~side.clashes[one], taken | 1L << one, depth + 1);
+                walk(search, open & ~side.covers[one], free & ~side.clashes[one], taken | 1L << one, depth + 1);
             }
         }
 

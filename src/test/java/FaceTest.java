@@ -19,12 +19,18 @@ public final class FaceTest {
         + "joined/2 section/2 flats/1 flat/3 near/3 pick/1 gather/1 drop/1 chosen/2 left/1 finish/1 ways/1 put/3 "
         + "swap/2 plus/3 scale/2 times/1 image/0 restore/0 like/0 drawn/3 count/1 digest/0";
 
+    private static final Pattern HEAD = Pattern.compile(
+        "(?m)^ +(?:public|private) (?:static )?(?:\\w+(?:\\[\\])? )?(\\w+)\\([^)]*\\) \\{$");
+
     public static void main(String[] args) throws IOException {
         methods();
+        signatures();
         constants();
         nested();
         text();
+        makesNothing();
         depth();
+        recursion();
         Script.end();
     }
 
@@ -53,6 +59,17 @@ public final class FaceTest {
             && Modifier.isPublic(constructors[0].getModifiers()) && constructors[0].getParameterCount() == 0);
         int modifiers = QuadricFlats.class.getModifiers();
         expect("a public final class", Modifier.isPublic(modifiers) && Modifier.isFinal(modifiers));
+    }
+
+    /** The document's signatures stand in the class word for word, the parameters' names too. */
+    private static void signatures() throws IOException {
+        List<String> due = Document.face();
+        Script.due("the signatures of the face", due.size(), 34);
+        List<String> lines = program().lines().map(String::trim).toList();
+        for (String signature : due) {
+            boolean isConstants = signature.contains("=");
+            expect("the class has " + signature, lines.contains(signature + (isConstants ? ";" : " {")));
+        }
     }
 
     private static void constants() {
@@ -117,11 +134,49 @@ public final class FaceTest {
         expect("only plain signs", text.chars().allMatch(sign -> sign == '\n' || sign >= 32 && sign < 127));
     }
 
-    /** Which method's text names which: no chain of calls, but for walk's own, is deeper than eight. */
-    private static void depth() throws IOException {
-        Pattern head = Pattern.compile("(?m)^ +(?:public|private) (?:static )?(?:\\w+(?:\\[\\])? )?(\\w+)\\([^)]*\\) \\{$");
+    /** All calls of a run live in one room: rows are made with the objects, parts in the constructor, and no more. */
+    private static void makesNothing() throws IOException {
+        int made = 0;
+        for (String line : program().lines().toList()) {
+            if (line.contains("new ")) {
+                made++;
+                expect("made once: " + line.trim(), line.matches(" {8}private final \\w+\\[\\] \\w+ = new \\w+\\[[A-Z_]+\\];")
+                    || line.matches(" {8}\\w+ = new \\w+\\([a-z, ]*\\);"));
+            }
+        }
+        expect("what is made is found", made > 20);
+    }
+
+    /** Rule 8 allows "a private static method that calls itself". */
+    private static void recursion() throws IOException {
         String text = program();
-        Matcher heads = head.matcher(text);
+        int found = 0;
+        Matcher heads = HEAD.matcher(text);
+        TreeMap<String, StringBuilder> bodies = bodies();
+        while (heads.find()) {
+            String name = heads.group(1);
+            if (Pattern.compile("(?<!\\w\\.)\\b" + name + "\\(").matcher(bodies.get(name)).find()) {
+                found++;
+                expect(name + " is private and static", heads.group().trim().startsWith("private static "));
+            }
+        }
+        Script.due("methods that call themselves", found, 1);
+    }
+
+    /** No chain of calls, but for walk's own, is deeper than eight. */
+    private static void depth() throws IOException {
+        TreeMap<String, StringBuilder> bodies = bodies();
+        expect("the methods are found", bodies.size() > 60);
+        for (String method : bodies.keySet()) {
+            int deep = deepest(bodies, method, 0);
+            expect(method + " goes " + deep + " deep", deep <= 8);
+        }
+    }
+
+    /** Each method's text, under its name: two of the same name are one. */
+    private static TreeMap<String, StringBuilder> bodies() throws IOException {
+        String text = program();
+        Matcher heads = HEAD.matcher(text);
         TreeMap<String, StringBuilder> bodies = new TreeMap<>();
         String last = null;
         int from = 0;
@@ -133,11 +188,7 @@ public final class FaceTest {
             from = heads.end();
         }
         note(bodies, last, text.substring(from));
-        expect("the methods are found", bodies.size() > 60);
-        for (String method : bodies.keySet()) {
-            int deep = deepest(bodies, method, 0);
-            expect(method + " goes " + deep + " deep", deep <= 8);
-        }
+        return bodies;
     }
 
     private static void note(TreeMap<String, StringBuilder> bodies, String method, String body) {

@@ -1,13 +1,17 @@
+import java.io.IOException;
 import java.util.ArrayList;
 import java.util.Arrays;
 import java.util.List;
+import java.util.Map;
+import java.util.TreeMap;
 
 /**
  * "A method that returns an error code changes nothing." "Each return description lists the error codes in the
  * order in which they are checked, and the first one that applies is returned."
  * Each case names a state, a call and all codes that apply there; the answer that is due is the first of them in
  * the method's order. Two objects are brought into the state, the call is made on one of them, and both must then
- * look alike. A method's cases must meet each of its codes alone and each two of them together.
+ * look alike. A method's cases must meet each of its codes alone and each two of them together, and the orders
+ * must be those of the document's return descriptions, which are read from it.
  */
 public final class RefusalsTest {
     private static final String GRID2 = "text 2:0100/000/01/0; form() = 15; ";
@@ -32,6 +36,8 @@ public final class RefusalsTest {
     private static final String WAYED = EMPTY_LISTS + "pick(14) = 1; gather(5) = 1; " + "ways(0) = 2; ".repeat(12);
     private static final String WAYED_SINGULAR = WAYED + "text 2:000/00/0; form() = 7; ";
 
+    private static final Map<String, String> ORDERS = new TreeMap<>();
+
     private final String method;
     private final List<String> order;
     private final List<List<String>> met = new ArrayList<>();
@@ -39,9 +45,10 @@ public final class RefusalsTest {
     private RefusalsTest(String method, String order) {
         this.method = method;
         this.order = Arrays.asList(order.split(" "));
+        ORDERS.put(method, order);
     }
 
-    public static void main(String[] args) {
+    public static void main(String[] args) throws IOException {
         texts();
         properties();
         points();
@@ -51,7 +58,18 @@ public final class RefusalsTest {
         changes();
         imageAndCounts();
         readers();
+        orders();
         Script.end();
+    }
+
+    private static void orders() throws IOException {
+        Map<String, String> due = Document.codes();
+        Script.due("methods with a return description", due.size(), 32);
+        for (Map.Entry<String, String> entry : due.entrySet()) {
+            String order = ORDERS.getOrDefault(entry.getKey(), "");
+            Script.due("the codes of " + entry.getKey() + " are " + entry.getValue() + ", not " + order + ": it",
+                order.equals(entry.getValue()) ? 1 : 0, 1);
+        }
     }
 
     /** A call that must be refused, with the arguments alone: the method stands in the table's head. */

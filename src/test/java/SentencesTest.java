@@ -14,7 +14,6 @@ import java.util.regex.Pattern;
  * can be left out, and runs the runs and the document's examples.
  */
 public final class SentencesTest {
-    private static final Path DOCUMENT = Path.of("../shared/DOC.md");
     private static final Path SENTENCES = Path.of("src/test/sentences.txt");
     private static final Pattern REPEATED = Pattern.compile("(\\d+) \\* (.*)");
     private static final Pattern FORM = Pattern.compile("([A-Z]+\\d?) : (.*)");
@@ -31,13 +30,9 @@ public final class SentencesTest {
         SentencesTest test = new SentencesTest();
         test.read(Files.readAllLines(SENTENCES));
         Script.due("there are more runs than sentences", test.runs > test.sentences.size() ? 1 : 0, 1);
-        if (Files.exists(DOCUMENT)) {
-            List<String> document = Files.readAllLines(DOCUMENT);
-            test.compare(sentencesOf(document));
-            Script.due("the examples", examples(document), 3);
-        } else {
-            System.out.println("the document is not at " + DOCUMENT + ": the sentences are not compared with it");
-        }
+        List<String> document = Document.lines();
+        test.compare(sentencesOf(document));
+        Script.due("the examples", examples(document), 3);
         Script.end();
     }
 
